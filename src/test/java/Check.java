@@ -1,0 +1,44 @@
+/** Counts answers that are not as due, and makes objects that have read a text. */
+final class Check {
+    private static int checked = 0;
+    private static int wrong = 0;
+
+    private Check() {
+    }
+
+    static void due(String what, long got, long want) {
+        checked++;
+        if (got != want) {
+            wrong++;
+            System.out.println(what + " answered " + got + ", due is " + want);
+        }
+    }
+
+    static void due(String what, boolean got, boolean want) {
+        due(what, got ? 1 : 0, want ? 1 : 0);
+    }
+
+    /** A new object with a hall, the lines of which may be told in parts. */
+    static NutmegSeats told(String... lines) {
+        NutmegSeats x = new NutmegSeats();
+        due("hall() of " + String.join(" ", lines), hall(x, String.join(" ", lines)), 0);
+        return x;
+    }
+
+    static int hall(NutmegSeats x, String text) {
+        Calls.feed(x, text);
+        return x.hall();
+    }
+
+    static int evening(NutmegSeats x, String text) {
+        Calls.feed(x, text);
+        return x.evening();
+    }
+
+    static void end() {
+        System.out.println(checked + " checks, " + wrong + " not as due");
+        if (wrong != 0 || checked == 0) {
+            System.exit(1);
+        }
+    }
+}
