@@ -27,9 +27,8 @@ public final class NutmegSeats {
     private static final int NOT_AS_TOLD = 4;
     private static final int TOO_MANY = 5;
 
-    private final Tape tape = new Tape();
-    private final Tokens tokens = new Tokens(tape);
-    private final HallReader hallReader = new HallReader(tokens);
+    private final Tokens tokens = new Tokens();
+    private final HallReader hallReader = new HallReader();
     // What is read goes into the draft, which changes places with what stood, if it has no fault.
     private Hall hall = new Hall();
     private Hall hallDraft = new Hall();
@@ -45,15 +44,15 @@ public final class NutmegSeats {
     }
 
     public int feed(long a, long b, long c) {
-        tape.append(a);
-        tape.append(b);
-        tape.append(c);
-        return tape.length;
+        tokens.tape.append(a);
+        tokens.tape.append(b);
+        tokens.tape.append(c);
+        return tokens.tape.length;
     }
 
     public int hall() {
-        int fault = hallReader.read(hallDraft);
-        tape.length = 0;
+        int fault = hallReader.read(tokens, hallDraft);
+        tokens.tape.length = 0;
         if (fault != 0) {
             return fault;
         }
@@ -69,7 +68,7 @@ public final class NutmegSeats {
 
     public int evening() {
         int fault = eveningDraft.read(tokens, hall);
-        tape.length = 0;
+        tokens.tape.length = 0;
         if (fault != 0) {
             return fault;
         }
@@ -157,16 +156,7 @@ public final class NutmegSeats {
     }
 
     public int judged(int what) {
-        switch (what) {
-            case 0:
-                return ahead.firstThatCannotBe(hall, evening);
-            case 1:
-                return ahead.firstByWhichOneIsGone(hall, evening);
-            case 2:
-                return ahead.sittersAtLast(hall, evening);
-            default:
-                return OTHERS;
-        }
+        return isWithin(what, 0, 2) ? ahead.verdict(hall, evening, what) : OTHERS;
     }
 
     public int left(int seat) {
@@ -431,7 +421,7 @@ public final class NutmegSeats {
             case 10:
                 return past.held;
             case 11:
-                return tape.length;
+                return tokens.tape.length;
             default:
                 return NONE;
         }
@@ -528,7 +518,7 @@ public final class NutmegSeats {
         static final int SIGN = 4;
         static final int BLANK = 5;
 
-        private final Tape tape;
+        final Tape tape = new Tape();
         int kind;
         int place;
         int end;
@@ -536,10 +526,6 @@ public final class NutmegSeats {
         // The letters of a WORD in five bits each: eight of them fit, and no text need be made.
         long word;
         int fault;
-
-        Tokens(Tape tape) {
-            this.tape = tape;
-        }
 
         void begin() {
             fault = 0;
@@ -556,35 +542,21 @@ public final class NutmegSeats {
             while (place < tape.length && tape.kindAt(place) == BLANK) {
                 place++;
             }
-            end = place;
             kind = tape.kindAt(place);
-            if (kind == WORD) {
-                readWord();
-            } else if (kind == NUMBER) {
-                readNumber();
-            } else if (kind != AT_END) {
-                end = place + 1;
+            end = kind == AT_END ? place : place + 1;
+            while ((kind == WORD || kind == NUMBER) && end < tape.length && tape.kindAt(end) == kind) {
+                end++;
             }
-        }
-
-        private void readWord() {
             word = 0;
-            while (end < tape.length && tape.kindAt(end) == WORD) {
-                word = word << 5 | tape.signAt(end) - 'a' + 1;
-                end++;
-            }
-            if (end - place > 8) {
-                kind = STRANGE;
-            }
-        }
-
-        private void readNumber() {
             number = 0;
-            while (end < tape.length && tape.kindAt(end) == NUMBER) {
-                number = number * 10 + tape.signAt(end) - '0';
-                end++;
+            for (int i = place; i < end; i++) {
+                if (kind == WORD) {
+                    word = word << 5 | tape.signAt(i) - 'a' + 1;
+                } else if (kind == NUMBER) {
+                    number = number * 10 + tape.signAt(i) - '0';
+                }
             }
-            if (end - place > 4) {
+            if (kind == WORD && end - place > 8 || kind == NUMBER && end - place > 4) {
                 kind = STRANGE;
             }
         }
@@ -715,8 +687,13 @@ public final class NutmegSeats {
             }
         }
 
+        boolean read(Tokens tokens) {
+            length = 0;
+            return readChoice(tokens, 0);
+        }
+
         /** Reads an E that stands within so many of not and ( ). */
-        boolean readChoice(Tokens tokens, int depth) {
+        private boolean readChoice(Tokens tokens, int depth) {
             boolean fine = readTest(tokens, depth);
             for (int i = 0; i < Tape.SIZE && fine && (tokens.is("and") || tokens.is("or")); i++) {
                 int operation = tokens.is("and") ? AND : OR;
@@ -1001,47 +978,47 @@ public final class NutmegSeats {
 
     /** Reads a hall from the tape. */
     private static final class HallReader {
-        private final Tokens tokens;
         private boolean lastsTold;
         private boolean wearsTold;
 
-        HallReader(Tokens tokens) {
-            this.tokens = tokens;
-        }
-
         /** Fills the hall: 0, or the fault. */
-        int read(Hall hall) {
+        int read(Tokens tokens, Hall hall) {
             hall.clear();
             lastsTold = false;
             wearsTold = false;
             tokens.begin();
             boolean fine = true;
             for (int i = 0; i < Tape.SIZE && fine && tokens.goesOn(); i++) {
-                fine = readLine(hall) && tokens.passesSign(';');
+                fine = readLine(tokens, hall) && tokens.passesSign(';');
             }
             return tokens.fault;
         }
 
-        private boolean readLine(Hall hall) {
+        private boolean readLine(Tokens tokens, Hall hall) {
             if (tokens.is("seat")) {
-                return readSeat(hall);
+                return readSeat(tokens, hall);
             }
             if (tokens.is("person")) {
-                return readPerson(hall);
+                return readPerson(tokens, hall);
             }
             if (tokens.is("foe")) {
-                return readFoe(hall);
+                return readFoe(tokens, hall);
             }
             if (tokens.is("lasts")) {
-                return readLasts(hall);
+                return readLasts(tokens, hall);
             }
-            if (tokens.is("wears")) {
-                return readWears(hall);
+            if (!tokens.is("wears")) {
+                return tokens.fail(CANT_STAND);
             }
-            return tokens.fail(CANT_STAND);
+            if (wearsTold) {
+                return tokens.fail(TOLD_ALREADY);
+            }
+            wearsTold = true;
+            tokens.step();
+            return hall.law.read(tokens);
         }
 
-        private boolean readSeat(Hall hall) {
+        private boolean readSeat(Tokens tokens, Hall hall) {
             if (hall.seats >= SEATS) {
                 return tokens.fail(TOO_MANY);
             }
@@ -1068,7 +1045,7 @@ public final class NutmegSeats {
             return true;
         }
 
-        private boolean readPerson(Hall hall) {
+        private boolean readPerson(Tokens tokens, Hall hall) {
             if (hall.persons >= PERSONS) {
                 return tokens.fail(TOO_MANY);
             }
@@ -1091,7 +1068,7 @@ public final class NutmegSeats {
             return true;
         }
 
-        private boolean readFoe(Hall hall) {
+        private boolean readFoe(Tokens tokens, Hall hall) {
             tokens.step();
             if (!tokens.hasPerson(hall)) {
                 return false;
@@ -1110,7 +1087,7 @@ public final class NutmegSeats {
             return true;
         }
 
-        private boolean readLasts(Hall hall) {
+        private boolean readLasts(Tokens tokens, Hall hall) {
             if (lastsTold) {
                 return tokens.fail(TOLD_ALREADY);
             }
@@ -1122,15 +1099,6 @@ public final class NutmegSeats {
             hall.lasts = tokens.number;
             tokens.step();
             return true;
-        }
-
-        private boolean readWears(Hall hall) {
-            if (wearsTold) {
-                return tokens.fail(TOLD_ALREADY);
-            }
-            wearsTold = true;
-            tokens.step();
-            return hall.law.readChoice(tokens, 0);
         }
     }
 
@@ -1545,7 +1513,11 @@ public final class NutmegSeats {
         /** The hour behind which what lies on one of these seats is gone for the first time. */
         int hoursTillGone(Hall hall, Scene now, int set) {
             play.copy(now);
-            for (int hour = 1; hour <= FAR_OFF; hour++) {
+            return playTillGone(hall, set, FAR_OFF);
+        }
+
+        private int playTillGone(Hall hall, int set, int most) {
+            for (int hour = 1; hour <= most; hour++) {
                 if ((play.passHour(hall, 0) & set) != 0) {
                     return hour;
                 }
@@ -1624,12 +1596,8 @@ public final class NutmegSeats {
         private int hourItIsGone(Hall hall, Scene now, int person, int seat, int most) {
             play.copy(now);
             play.put(hall, person, seat);
-            for (int hour = 1; hour <= most; hour++) {
-                if ((play.passHour(hall, 0) >> seat & 1) != 0) {
-                    return hour;
-                }
-            }
-            return most + 1;
+            int hour = playTillGone(hall, 1 << seat, most);
+            return hour == NONE ? most + 1 : hour;
         }
 
         int whoFits(Hall hall, Scene now, Seen seen) {
@@ -1754,32 +1722,23 @@ public final class NutmegSeats {
             return bound <= 0 ? 0 : (int) (g / 65536L % bound);
         }
 
-        int firstThatCannotBe(Hall hall, Evening evening) {
+        int verdict(Hall hall, Evening evening, int what) {
             play.begin(hall);
+            int cannotBe = NONE;
+            int takesOne = NONE;
             for (int line = 0; line < evening.lines; line++) {
-                if (play.act(hall, evening.verbs[line], evening.persons[line], evening.seats[line]) == NONE) {
-                    return line;
+                int gone = play.act(hall, evening.verbs[line], evening.persons[line], evening.seats[line]);
+                if (gone == NONE && cannotBe == NONE) {
+                    cannotBe = line;
+                }
+                if (gone > 0 && takesOne == NONE) {
+                    takesOne = line;
                 }
             }
-            return NONE;
-        }
-
-        int firstByWhichOneIsGone(Hall hall, Evening evening) {
-            play.begin(hall);
-            for (int line = 0; line < evening.lines; line++) {
-                if (play.act(hall, evening.verbs[line], evening.persons[line], evening.seats[line]) > 0) {
-                    return line;
-                }
+            if (what == 0) {
+                return cannotBe;
             }
-            return NONE;
-        }
-
-        int sittersAtLast(Hall hall, Evening evening) {
-            play.begin(hall);
-            for (int line = 0; line < evening.lines; line++) {
-                play.act(hall, evening.verbs[line], evening.persons[line], evening.seats[line]);
-            }
-            return Integer.bitCount(play.sittersOn(hall.allSeats()));
+            return what == 1 ? takesOne : Integer.bitCount(play.sittersOn(hall.allSeats()));
         }
     }
 

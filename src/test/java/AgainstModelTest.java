@@ -73,7 +73,7 @@ public final class AgainstModelTest {
             for (int i = bounds[0][0]; i <= bounds[0][1]; i++) {
                 int second = bounds.length > 1 ? bounds[1][1] : 0;
                 for (int j = 0; j <= second; j++) {
-                    same(seed, real, model, name, new int[] {i, j}, story);
+                    same(seed, real, model, name, bounds.length > 1 ? new int[] {i, j} : new int[] {i}, story);
                 }
             }
         }
@@ -119,10 +119,10 @@ public final class AgainstModelTest {
 
     private static void same(int seed, NutmegSeats real, Model model, String name, int[] a, StringBuilder story) {
         String call = name + Arrays.toString(a);
-        long due = Calls.model(model, name, a);
+        long due = Calls.answer(model, name, a);
         long answer;
         try {
-            answer = Calls.real(real, name, a);
+            answer = Calls.answer(real, name, a);
         } catch (RuntimeException e) {
             wrong++;
             System.out.println("seed " + seed + ": " + call + " threw " + e);

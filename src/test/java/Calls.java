@@ -1,3 +1,6 @@
+import java.lang.reflect.InvocationTargetException;
+import java.lang.reflect.Method;
+import java.lang.reflect.Modifier;
 import java.util.ArrayList;
 import java.util.List;
 import java.util.NoSuchElementException;
@@ -15,105 +18,32 @@ final class Calls {
     private Calls() {
     }
 
-    static long of(boolean b) {
-        return b ? 1 : 0;
-    }
-
-    static long real(NutmegSeats x, String name, int[] a) {
-        switch (name) {
-            case "hall": return x.hall();
-            case "evening": return x.evening();
-            case "seat": return x.seat(a[0], a[1]);
-            case "person": return x.person(a[0], a[1]);
-            case "lay": return x.lay(a[0], a[1]);
-            case "sit": return x.sit(a[0], a[1]);
-            case "rise": return x.rise(a[0]);
-            case "grate": return x.grate(a[0], a[1]);
-            case "hour": return x.hour();
-            case "undo": return of(x.undo());
-            case "judged": return x.judged(a[0]);
-            case "left": return x.left(a[0]);
-            case "later": return x.later(a[0], a[1]);
-            case "first": return x.first();
-            case "empties": return x.empties();
-            case "most": return x.most(a[0]);
-            case "could": return x.could(a[0]);
-            case "needs": return x.needs(a[0], a[1], a[2]);
-            case "keeps": return x.keeps(a[0], a[1], a[2]);
-            case "placed": return x.placed(a[0]);
-            case "peace": return x.peace();
-            case "war": return x.war();
-            case "safe": return x.safe();
-            case "see": return of(x.see(a[0], a[1], a[2] != 0));
-            case "who": return x.who();
-            case "ask": return x.ask();
-            case "far": return x.far(a[0], a[1]);
-            case "blocks": return x.blocks(a[0]);
-            case "rich": return x.rich();
-            case "lone": return x.lone();
-            case "row": return x.row(a[0]);
-            case "stands": return x.stands();
-            case "guards": return x.guards(a[0]);
-            case "chance": return x.chance(a[0], a[1], a[2]);
-            case "rests":
-                try {
-                    return x.rests(a[0], a[1], a[2], a[3]);
-                } catch (NoSuchElementException e) {
-                    return THROWN;
-                }
-            case "seasons": return x.seasons(a[0], a[1], a[2]);
-            case "mark": return of(x.mark(a[0], a[1] != 0));
-            case "count": return x.count(a[0]);
-            default: throw new IllegalArgumentException(name);
+    /** Makes a call on the class or on the model (a boolean counts 1 or 0). */
+    static long answer(Object x, String name, int[] a) {
+        for (Method method : x.getClass().getDeclaredMethods()) {
+            boolean open = !Modifier.isPrivate(method.getModifiers());
+            if (open && method.getName().equals(name) && method.getParameterCount() == a.length) {
+                return made(x, method, a);
+            }
         }
+        throw new IllegalArgumentException(name);
     }
 
-    static long model(Model x, String name, int[] a) {
-        switch (name) {
-            case "hall": return x.hall();
-            case "evening": return x.evening();
-            case "seat": return x.seat(a[0], a[1]);
-            case "person": return x.person(a[0], a[1]);
-            case "lay": return x.lay(a[0], a[1]);
-            case "sit": return x.sit(a[0], a[1]);
-            case "rise": return x.rise(a[0]);
-            case "grate": return x.grate(a[0], a[1]);
-            case "hour": return x.hour();
-            case "undo": return of(x.undo());
-            case "judged": return x.judged(a[0]);
-            case "left": return x.left(a[0]);
-            case "later": return x.later(a[0], a[1]);
-            case "first": return x.first();
-            case "empties": return x.empties();
-            case "most": return x.most(a[0]);
-            case "could": return x.could(a[0]);
-            case "needs": return x.needs(a[0], a[1], a[2]);
-            case "keeps": return x.keeps(a[0], a[1], a[2]);
-            case "placed": return x.placed(a[0]);
-            case "peace": return x.peace();
-            case "war": return x.war();
-            case "safe": return x.safe();
-            case "see": return of(x.see(a[0], a[1], a[2] != 0));
-            case "who": return x.who();
-            case "ask": return x.ask();
-            case "far": return x.far(a[0], a[1]);
-            case "blocks": return x.blocks(a[0]);
-            case "rich": return x.rich();
-            case "lone": return x.lone();
-            case "row": return x.row(a[0]);
-            case "stands": return x.stands();
-            case "guards": return x.guards(a[0]);
-            case "chance": return x.chance(a[0], a[1], a[2]);
-            case "rests":
-                try {
-                    return x.rests(a[0], a[1], a[2], a[3]);
-                } catch (NoSuchElementException e) {
-                    return THROWN;
-                }
-            case "seasons": return x.seasons(a[0], a[1], a[2]);
-            case "mark": return of(x.mark(a[0], a[1] != 0));
-            case "count": return x.count(a[0]);
-            default: throw new IllegalArgumentException(name);
+    private static long made(Object x, Method method, int[] a) {
+        Object[] args = new Object[a.length];
+        for (int i = 0; i < a.length; i++) {
+            args[i] = method.getParameterTypes()[i] == boolean.class ? (Object) (a[i] != 0) : (Object) a[i];
+        }
+        try {
+            Object answer = method.invoke(x, args);
+            return answer instanceof Boolean ? ((Boolean) answer ? 1 : 0) : (Integer) answer;
+        } catch (InvocationTargetException e) {
+            if (method.getName().equals("rests") && e.getCause().getClass() == NoSuchElementException.class) {
+                return THROWN;
+            }
+            throw new IllegalStateException(e.getCause());
+        } catch (IllegalAccessException e) {
+            throw new IllegalStateException(e);
         }
     }
 

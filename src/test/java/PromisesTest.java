@@ -776,6 +776,9 @@ public final class PromisesTest {
         due("28: no other seat", z.ask(), -1);
         NutmegSeats w = Check.told("seat a row 0 at 0 ; person p lady nutmegs 0 ; person q captain nutmegs 0 ; lasts 30 ;");
         due("28: behind 60", w.ask(), 480);
+        NutmegSeats v = Check.told("seat a row 0 at 0 ; person p lady nutmegs 0 ; person q captain nutmegs 0 ; lasts 30 ;",
+            "wears 0 < date ;");
+        due("28: not behind 61", v.ask(), -1);
         due("28: no seats", Check.told(PERSONS).ask(), -1);
         due("28: nothing", new NutmegSeats().ask(), -1);
     }
@@ -990,6 +993,7 @@ public final class PromisesTest {
         due("38: p sits", x.seasons(7, 6, 1), 1);
         due("38: p rises", x.seasons(7, 7, 1), 0);
         due("38: seed -1", x.seasons(-1, 1, 0), -1);
+        due("38: seed 0", x.seasons(0, 1, 0), 0);
         due("38: seed 10000", x.seasons(10000, 1, 0), -1);
         due("38: seed 9999", x.seasons(9999, 1, 0), 0);
         due("38: 0 hours", x.seasons(1, 0, 0), -1);
@@ -1047,6 +1051,27 @@ public final class PromisesTest {
         due("39: evening", Check.evening(x, "hour ; hour ;"), 0);
         x.mark(0, true);
         due("39: the evening stays", x.count(8), 2);
+        NutmegSeats y = supper();
+        y.mark(0, false);
+        y.see(4, 5, true);
+        y.see(4, 3, true);
+        y.mark(1, false);
+        y.mark(0, true);
+        due("39: nothing seen", y.who(), 31);
+        y.see(0, 60, false);
+        y.see(0, 60, false);
+        y.lay(1, 4);
+        due("39: all but dirk", y.who(), 23);
+        y.mark(1, true);
+        due("39: bel and dirk, on the other seat", y.who(), 10);
+        y.lay(0, 4);
+        due("39: it is that seat", y.who(), 0);
+        y.mark(2, false);
+        y.mark(3, false);
+        Check.due("39: hall()", Check.hall(y, SEATS), 0);
+        for (int i = 0; i < 4; i++) {
+            due("39: nothing is on " + i + " in a new hall", y.mark(i, true), false);
+        }
     }
 
     private static void count() {
