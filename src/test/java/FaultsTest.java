@@ -303,6 +303,15 @@ public final class FaultsTest {
         Check.due("near in a new hall", x.seat(0, 5), 0);
         Check.due("lay in a new hall", x.lay(0, 0), 12);
         Check.due("without wears", x.later(0, 1), 11);
+        Check.due("sit in a new hall", x.sit(0, 0), 3);
+        Check.due("hall() once more", Check.hall(x, "seat zz row 0 at 0 ; seat yy row 0 at 5 ; " + TWO), 0);
+        Check.due("nothing lies", x.seat(0, 2) * 10 + x.seat(0, 3), -10);
+        Check.due("nobody sits", x.seat(0, 4) * 10 + x.person(0, 2), -11);
+        Check.due("near once more", x.seat(0, 5) + x.seat(1, 5), 0);
+        Check.due("foes once more", x.person(0, 4) + x.person(1, 4), 0);
+        x.lay(0, 1);
+        Check.due("hall() a fourth time", Check.hall(x, "seat zz row 0 at 0 ; seat yy row 0 at 5 ; " + TWO), 0);
+        Check.due("nothing is left", x.seat(1, 3), 0);
         Check.due("an old name", Check.evening(x, "sit pp aa ;"), 2 + 16 * 7);
     }
 }

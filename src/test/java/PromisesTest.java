@@ -543,6 +543,7 @@ public final class PromisesTest {
         due("18: r nowhere", y.most(2), -1);
         y.lay(1, 0);
         due("18: each on the own", y.most(0) * 10 + y.most(1), 10);
+        due("18: asked first", Check.told(SEATS, PERSONS).most(3), 3);
         NutmegSeats z = Check.told(PERSONS);
         due("18: no seats", z.most(-1), 0);
         due("18: nowhere", z.most(0), -1);
@@ -779,6 +780,8 @@ public final class PromisesTest {
         NutmegSeats v = Check.told("seat a row 0 at 0 ; person p lady nutmegs 0 ; person q captain nutmegs 0 ; lasts 30 ;",
             "wears 0 < date ;");
         due("28: not behind 61", v.ask(), -1);
+        NutmegSeats u = Check.told("seat a row 0 at 0 ; person p plain nutmegs 0 ; person q lady nutmegs 0 ; lasts 1 ;");
+        due("28: behind 1", u.ask(), 8);
         due("28: no seats", Check.told(PERSONS).ask(), -1);
         due("28: nothing", new NutmegSeats().ask(), -1);
     }
@@ -1001,6 +1004,9 @@ public final class PromisesTest {
         due("38: 99 hours", x.seasons(1, 99, 2) >= 0, true);
         due("38: what 3", x.seasons(1, 1, 3), -1);
         due("38: what -1", x.seasons(1, 1, -1), -1);
+        NutmegSeats y = Check.told("seat a row 0 at 0 ; person p plain nutmegs 1 ;");
+        due("38: alone, seed 3: they lay", y.seasons(3, 1, 1), 0);
+        due("38: alone, seed 3: they sit down on it", y.seasons(3, 2, 1), 1);
         due("38: no seats", Check.told(PERSONS).seasons(1, 99, 2), 5);
         due("38: nobody", Check.told(SEATS).seasons(1, 99, 2), 0);
     }
