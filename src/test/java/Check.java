@@ -2,6 +2,7 @@
 final class Check {
     private static int checked = 0;
     private static int wrong = 0;
+    private static String sentence = "";
 
     private Check() {
     }
@@ -16,6 +17,19 @@ final class Check {
 
     static void due(String what, boolean got, boolean want) {
         due(what, got ? 1 : 0, want ? 1 : 0);
+    }
+
+    /** The sentence of the document by which the next answers are due. */
+    static void says(String words) {
+        sentence = words;
+    }
+
+    static void is(String call, long got, long want) {
+        due(sentence + " | " + call, got, want);
+    }
+
+    static void is(String call, boolean got, boolean want) {
+        is(call, got ? 1 : 0, want ? 1 : 0);
     }
 
     /** A new object with a hall, the lines of which may be told in parts. */
