@@ -49,6 +49,25 @@ final class Check {
         return x.evening();
     }
 
+    /** All that the class tells of how things stand. */
+    static String state(NutmegSeats x) {
+        StringBuilder text = new StringBuilder();
+        for (int what = 0; what < 12; what++) {
+            text.append(x.count(what)).append(' ');
+        }
+        for (int seat = 0; seat < 7; seat++) {
+            for (int what = 0; what < 6; what++) {
+                text.append(x.seat(seat, what)).append(' ');
+            }
+        }
+        for (int person = 0; person < 5; person++) {
+            for (int what = 0; what < 5; what++) {
+                text.append(x.person(person, what)).append(' ');
+            }
+        }
+        return text.toString();
+    }
+
     static void end() {
         System.out.println(checked + " checks, " + wrong + " not as due");
         if (wrong != 0 || checked == 0) {
