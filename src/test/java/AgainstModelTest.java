@@ -1,4 +1,5 @@
 import java.util.Arrays;
+import java.util.List;
 
 /** Evenings by dice, played on the class and on the model: all answers have to be the same. */
 public final class AgainstModelTest {
@@ -9,7 +10,12 @@ public final class AgainstModelTest {
         30, 31, 32, 33, 59, 60, 61, 62, 98, 99, 100, 101, 128, 1000, 9999, 10000, 65536, 1 << 30,
         Integer.MAX_VALUE - 1, Integer.MAX_VALUE};
 
+    // An object is used for so many calls; the last look takes the last of them.
+    private static final int CALLS = 512;
+    private static final int LAST_LOOK = 42 + 25 + 12;
+
     private static int wrong = 0;
+    private static int made = 0;
     private static long answers = 0;
 
     private AgainstModelTest() {
@@ -33,25 +39,25 @@ public final class AgainstModelTest {
         NutmegSeats real = new NutmegSeats();
         Model model = new Model();
         StringBuilder story = new StringBuilder();
-        int calls = 0;
+        made = 0;
         boolean read = false;
-        for (int round = 0; round < 6 && calls < 400; round++) {
+        for (int round = 0; round < 6 && hasCalls(1); round++) {
             boolean whole = true;
             if (!read || dice.once(3)) {
                 String text = texts.hall();
                 whole = !dice.once(3);
-                tell(dice, real, model, whole ? text : texts.spoilt(text), story);
-                calls += 30;
-                same(seed, real, model, "hall", new int[0], story);
+                if (tell(dice, real, model, whole ? text : texts.spoilt(text), story)) {
+                    same(seed, real, model, "hall", new int[0], story);
+                }
                 read |= model.told.seats.size() > 0;
             }
             if (whole && dice.once(2)) {
                 String text = texts.evening();
-                tell(dice, real, model, dice.once(3) ? texts.spoilt(text) : text, story);
-                calls += 30;
-                same(seed, real, model, "evening", new int[0], story);
+                if (tell(dice, real, model, dice.once(3) ? texts.spoilt(text) : text, story)) {
+                    same(seed, real, model, "evening", new int[0], story);
+                }
             }
-            for (int i = 0; i < 60 && wrong < 20; i++) {
+            for (int i = 0; i < 60 && wrong < 20 && hasCalls(1); i++) {
                 String name = dice.once(2) ? dice.pick(DEEDS) : Calls.NAMES[dice.below(Calls.NAMES.length)];
                 if (name.equals("hall") && !dice.once(20)) {
                     name = "count";
@@ -59,11 +65,15 @@ public final class AgainstModelTest {
                 if (Arrays.asList(SLOW).contains(name) && !dice.once(3)) {
                     name = "seat";
                 }
-                calls++;
                 same(seed, real, model, name, arguments(dice, model, name), story);
             }
         }
         all(seed, real, model, story);
+    }
+
+    /** Whether so many calls are left ahead of the last look. */
+    private static boolean hasCalls(int calls) {
+        return made + calls <= CALLS - LAST_LOOK;
     }
 
     /** A last look at all that can be looked at. */
@@ -101,8 +111,8 @@ public final class AgainstModelTest {
         return a;
     }
 
-    /** Feeds a text with strange bytes in between, which are left out. */
-    private static void tell(Dice dice, NutmegSeats real, Model model, String text, StringBuilder story) {
+    /** Feeds a text with strange bytes in between, which are left out; false: too few calls are left to read it. */
+    private static boolean tell(Dice dice, NutmegSeats real, Model model, String text, StringBuilder story) {
         StringBuilder mixed = new StringBuilder();
         boolean strange = dice.once(5);
         for (int i = 0; i < text.length(); i++) {
@@ -111,13 +121,21 @@ public final class AgainstModelTest {
             }
             mixed.append(text.charAt(i));
         }
+        List<long[]> feeds = Calls.feeds(mixed.toString());
+        // What reads the tape is called behind it.
+        if (!hasCalls(feeds.size() + 1)) {
+            return false;
+        }
         story.append("tape ").append(mixed).append('\n');
-        for (long[] f : Calls.feeds(mixed.toString())) {
+        for (long[] f : feeds) {
+            made++;
             compare(0, "feed", f[0] + " " + f[1] + " " + f[2], real.feed(f[0], f[1], f[2]), model.feed(f[0], f[1], f[2]), story);
         }
+        return true;
     }
 
     private static void same(int seed, NutmegSeats real, Model model, String name, int[] a, StringBuilder story) {
+        made++;
         String call = name + Arrays.toString(a);
         long due = Calls.answer(model, name, a);
         long answer;

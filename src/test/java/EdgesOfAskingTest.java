@@ -14,11 +14,18 @@ public final class EdgesOfAskingTest {
     private static final String PLAIN = "person p plain nutmegs 9 ;";
     private static final String ALL_FOES = "foe p q ; foe p r ; foe p s ; foe q r ; foe q s ; foe r s ;";
 
+    // All that asks and does nothing.
+    private static final String[] ASKS = {"judged 0", "judged 1", "judged 2", "left 0", "later 0 60", "first", "empties",
+        "most -1", "most 0", "most 3", "could 1", "needs 0 4 60", "keeps 0 30 1", "keeps 4 1 0", "placed -1", "placed 2",
+        "peace", "war", "safe", "who", "ask", "far 0 6", "blocks 1", "rich", "lone", "row 0", "stands", "guards 1",
+        "chance 0 6 5", "chance 3 2 9", "rests 2 5 1 -1", "seasons 77 99 0", "seasons 78 9 1", "seasons 79 3 2"};
+
     private EdgesOfAskingTest() {
     }
 
     public static void main(String[] args) {
         nothingIsDone();
+        nothingOfAnotherCall();
         left();
         leftWhatLiesNow();
         later();
@@ -50,6 +57,7 @@ public final class EdgesOfAskingTest {
         askLessThanAll();
         askFirst();
         askOfFreeOnes();
+        askOfWhoIsLeft();
         far();
         blocks();
         rich();
@@ -80,8 +88,8 @@ public final class EdgesOfAskingTest {
         Check.is(call, got, want);
     }
 
-    private static void nothingIsDone() {
-        says("HOURS going by, nothing else being done");
+    /** A hall in which something lies, sits, is seen, marked and told. */
+    private static NutmegSeats inUse() {
         NutmegSeats x = Check.told(SNAKE, FIVE, ALL_FOES, "lasts 9 ; wears company + date ;");
         Check.evening(x, "lay p a ; sit q c ; hour ;");
         x.lay(0, 0);
@@ -89,23 +97,42 @@ public final class EdgesOfAskingTest {
         x.sit(2, 1);
         x.see(4, 2, true);
         x.mark(1, false);
-        String ahead = Check.state(x);
-        String[] asks = {"judged 1", "left 0", "later 0 60", "first", "empties", "most -1", "most 3", "could 1", "needs 0 4 60",
-            "keeps 0 30 1", "placed -1", "placed 2", "peace", "war", "safe", "who", "ask", "far 0 6", "blocks 1", "rich", "lone",
-            "row 0", "stands", "guards 1", "chance 0 6 5", "rests 2 5 1 -1", "seasons 77 99 0", "seasons 78 99 1",
-            "seasons 79 99 2"};
-        for (String ask : asks) {
-            String[] words = ask.split(" ");
-            int[] a = new int[words.length - 1];
-            for (int i = 0; i < a.length; i++) {
-                a[i] = Integer.parseInt(words[i + 1]);
-            }
-            long answer = Calls.answer(x, words[0], a);
-            Check.is("all stays behind " + ask, Check.state(x).equals(ahead), true);
-            is(ask + " again", Calls.answer(x, words[0], a), answer);
+        return x;
+    }
+
+    /** A call that is written as its name and its numbers. */
+    private static long asked(NutmegSeats x, String ask) {
+        String[] words = ask.split(" ");
+        int[] a = new int[words.length - 1];
+        for (int i = 0; i < a.length; i++) {
+            a[i] = Integer.parseInt(words[i + 1]);
         }
-        x.hour();
-        Check.is("the MARK is there", x.mark(1, true), true);
+        return Calls.answer(x, words[0], a);
+    }
+
+    private static void nothingIsDone() {
+        says("HOURS going by, nothing else being done");
+        for (String ask : ASKS) {
+            NutmegSeats x = inUse();
+            String ahead = Check.state(x);
+            long answer = asked(x, ask);
+            Check.is("all stays behind " + ask, Check.state(x).equals(ahead), true);
+            is(ask + " again", asked(x, ask), answer);
+            x.hour();
+            Check.is("the MARK is there", x.mark(1, true), true);
+        }
+    }
+
+    private static void nothingOfAnotherCall() {
+        says("SEEN: as all is when it is asked; SEASONS: all is as ahead then");
+        for (String ask : ASKS) {
+            long alone = asked(inUse(), ask);
+            for (String other : ASKS) {
+                NutmegSeats x = inUse();
+                asked(x, other);
+                is(ask + " behind " + other, asked(x, ask), alone);
+            }
+        }
     }
 
     private static void left() {
@@ -590,6 +617,36 @@ public final class EdgesOfAskingTest {
         NutmegSeats y = Check.told(ONE, FIVE);
         y.sit(0, 0);
         is("none FREE", y.ask(), -1);
+    }
+
+    private static void askOfWhoIsLeft() {
+        says("ASK: the greater number of WHO");
+        NutmegSeats x = Check.told(APART, FIVE, "lasts 5 ;");
+        x.mark(0, false);
+        x.see(0, 3, true);
+        is("all but r", x.who(), 27);
+        is("2 of 4", x.ask(), 40);
+        x.mark(1, false);
+        x.see(2, 5, true);
+        is("q and s", x.who(), 10);
+        is("1 of 2", x.ask(), 80);
+        x.mark(1, true);
+        x.see(3, 5, false);
+        is("p and t", x.who(), 17);
+        is("alike", x.ask(), -1);
+        x.mark(0, true);
+        x.see(1, 9, false);
+        is("p, r and t", x.who(), 21);
+        is("2 of 3", x.ask(), 24);
+        NutmegSeats y = Check.told(ROW_OF_SEVEN, FIVE, "lasts 6 ; wears 1 + company ;");
+        y.lay(3, 1);
+        y.see(4, 4, true);
+        is("beside none: all but r", y.who(), 27);
+        // Beside the captain's it wears 2 an hour: p's and t's are gone behind 3.
+        is("beside the captain's", y.ask(), 24);
+        y.sit(2, 0);
+        y.sit(1, 2);
+        is("beside none", y.ask(), 51);
     }
 
     private static void far() {

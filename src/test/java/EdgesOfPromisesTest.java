@@ -121,7 +121,7 @@ public final class EdgesOfPromisesTest {
         return text.append(')').toString();
     }
 
-    /** Refused, and all stays as it was. */
+    /** Refused, and all stays as it was: of a new object each, since one may be used for 512 calls. */
     private static void refused(NutmegSeats x, String name, int... a) {
         String ahead = Check.state(x);
         is(text(name, a), Calls.answer(x, name, a), REFUSALS.get(name));
@@ -136,7 +136,6 @@ public final class EdgesOfPromisesTest {
         for (Map.Entry<String, int[]> one : asked.entrySet()) {
             String name = one.getKey();
             taken(full ? full() : small(), name, one.getValue());
-            NutmegSeats x = full ? full() : small();
             int[][] bounds = Calls.bounds(name);
             for (int i = 0; i < bounds.length; i++) {
                 boolean flag = name.equals("see") && i == 2 || name.equals("mark") && i == 1;
@@ -153,7 +152,7 @@ public final class EdgesOfPromisesTest {
                     int[] a = one.getValue().clone();
                     a[i] = bad;
                     if (!flag && (bad < bounds[i][0] || bad > most)) {
-                        refused(x, name, a);
+                        refused(full ? full() : small(), name, a);
                     }
                 }
             }
@@ -285,22 +284,25 @@ public final class EdgesOfPromisesTest {
 
     private static void faultsLeaveAll() {
         says("3, 4: or its FAULT (all stays then)");
-        NutmegSeats x = full();
-        x.see(2, 3, true);
-        String ahead = Check.state(x);
         String[] texts = {"seat", "lasts 9 ; lasts", "person z lady nutmegs 9 ; #", "wears 9 ; wears", "foe p q ;", "hour ;"};
         for (String text : texts) {
+            NutmegSeats x = full();
+            x.see(2, 3, true);
+            String ahead = Check.state(x);
             Check.is("hall() has a FAULT: " + text, Check.hall(x, text) != 0, true);
             Check.is("all stays", Check.state(x).equals(ahead), true);
             is("the NUTMEG wears as it did", x.later(1, 1), 11);
             is("the EVENING is what it was", x.judged(0), -1);
+            is("its names are told still", Check.evening(x, "rise t ; sit t g ;"), 0);
+            Check.is("the MARK is there", x.mark(0, true), true);
         }
         for (String text : new String[] {"hour ; hour ; rise", "sit p a ; sit q b ; seat", "lay p p ;", "hour ; ".repeat(41)}) {
+            NutmegSeats x = full();
+            String ahead = Check.state(x);
             Check.is("evening() has a FAULT: " + text, Check.evening(x, text) != 0, true);
             Check.is("all stays", Check.state(x).equals(ahead), true);
             is("the EVENING is what it was", x.judged(2), 0);
         }
-        is("its names are told still", Check.evening(x, "rise t ;"), 0);
     }
 
     private static void noneOfASeat() {

@@ -130,6 +130,8 @@ public final class EdgesOfTermsTest {
         is("all in all", signs, 96);
         int[] edges = {9, 10, 11, 31, 32, 126, 127, 128, 138, 160, 254, 255};
         for (int at = 0; at < 24; at++) {
+            x = new NutmegSeats();
+            signs = 0;
             for (int sign : edges) {
                 long[] three = new long[3];
                 three[at / 8] = (long) sign << 56 - at % 8 * 8;
