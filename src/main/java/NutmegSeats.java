@@ -737,10 +737,28 @@ public final class NutmegSeats {
         }
 
         private boolean readPart(Tokens tokens, int depth) {
-            boolean not = tokens.is("not");
+            int nots = stepOverNots(tokens, depth);
+            boolean fine = readBarePart(tokens, depth + nots);
+            for (int i = 0; i < nots; i++) {
+                add(NOT);
+            }
+            return fine;
+        }
+
+        /** Leaves a not that lies too deep where it is: it is wrong there. */
+        private static int stepOverNots(Tokens tokens, int depth) {
+            int nots = 0;
+            while (depth + nots < DEPTH && tokens.is("not")) {
+                tokens.step();
+                nots++;
+            }
+            return nots;
+        }
+
+        private boolean readBarePart(Tokens tokens, int depth) {
             boolean opens = tokens.isSign('(');
             int operand = operandOf(tokens);
-            if (!not && !opens && operand == NOT) {
+            if (!opens && operand == NOT && !tokens.is("not")) {
                 return tokens.fail(CANT_STAND);
             }
             if (depth >= DEPTH) {
@@ -750,9 +768,8 @@ public final class NutmegSeats {
             if (opens) {
                 return readChoice(tokens, depth + 1) && tokens.passesSign(')');
             }
-            boolean fine = !not || readPart(tokens, depth + 1);
             add(operand);
-            return fine;
+            return true;
         }
 
         /** The NUMBER or the fact that stands here; NOT: neither of them. */
@@ -1760,49 +1777,49 @@ public final class NutmegSeats {
 
         int findMost(Hall hall, Scene now) {
             count = NONE;
-            seatFrom(hall, now, 0, 0, 0);
+            seatFrom(this, hall, now, 0, 0, 0);
             return count;
         }
 
-        private void seatFrom(Hall hall, Scene now, int person, int taken, int sitting) {
-            if (sitting + hall.persons - person <= count) {
+        private static void seatFrom(Sittings tried, Hall hall, Scene now, int person, int taken, int sitting) {
+            if (sitting + hall.persons - person <= tried.count) {
                 return;
             }
             if (person >= hall.persons || person >= PERSONS) {
-                count = sitting;
-                keepRow();
+                tried.count = sitting;
+                tried.keepRow();
                 return;
             }
             int open = now.chair[person] == NONE ? now.couldSitOn(hall, person) & ~taken : 0;
             for (int seat = 0; seat < hall.seats; seat++) {
                 if ((open >> seat & 1) != 0) {
-                    row[person] = seat;
-                    seatFrom(hall, now, person + 1, taken | 1 << seat, sitting + 1);
+                    tried.row[person] = seat;
+                    seatFrom(tried, hall, now, person + 1, taken | 1 << seat, sitting + 1);
                 }
             }
-            row[person] = NONE;
-            seatFrom(hall, now, person + 1, taken, sitting);
+            tried.row[person] = NONE;
+            seatFrom(tried, hall, now, person + 1, taken, sitting);
         }
 
         int findPlaced(Hall hall) {
             count = 0;
-            placeFrom(hall, 0, 0);
+            placeFrom(this, hall, 0, 0);
             return count;
         }
 
-        private void placeFrom(Hall hall, int person, int taken) {
+        private static void placeFrom(Sittings tried, Hall hall, int person, int taken) {
             if (person >= hall.persons || person >= PERSONS) {
-                if (count == 0) {
-                    keepRow();
+                if (tried.count == 0) {
+                    tried.keepRow();
                 }
-                count++;
+                tried.count++;
                 return;
             }
-            int shut = taken | hall.nearAny(chairsOfFoes(hall, person));
+            int shut = taken | hall.nearAny(tried.chairsOfFoes(hall, person));
             for (int seat = 0; seat < hall.seats; seat++) {
                 if ((shut >> seat & 1) == 0) {
-                    row[person] = seat;
-                    placeFrom(hall, person + 1, taken | 1 << seat);
+                    tried.row[person] = seat;
+                    placeFrom(tried, hall, person + 1, taken | 1 << seat);
                 }
             }
         }

@@ -122,20 +122,37 @@ public final class FaceTest {
         while (library.find()) {
             Check.due("the text has " + library.group(), library.group().equals("System.arraycopy"), true);
         }
-        lengths(source.split("\n"));
+        methods(code.split("\n"));
     }
 
-    private static void lengths(String[] lines) {
-        int begin = -1;
-        for (int i = 0; i < lines.length; i++) {
-            if (lines[i].matches("(    |        )[a-zA-Z].*\\) (throws \\w+ )?\\{")) {
-                begin = i;
-            }
-            boolean ends = lines[i].equals("    }") || lines[i].equals("        }");
-            if (ends && begin >= 0) {
-                Check.due("lines of " + lines[begin].trim(), i - begin <= SOME_LINES, true);
-                begin = -1;
+    private static void methods(String[] lines) {
+        String head = "";
+        StringBuilder body = new StringBuilder();
+        int length = 0;
+        int heads = 0;
+        for (String line : lines) {
+            boolean deed = line.trim().matches("(if|for|while|switch|do|try|else)\\b.*");
+            if (!deed && line.matches("(    |        )[a-zA-Z].*\\) (throws \\w+ )?\\{")) {
+                head = line;
+                body.setLength(0);
+                length = 0;
+                heads++;
+            } else if (!head.isEmpty() && line.equals(head.replaceAll("\\S.*$", "}"))) {
+                Check.due("lines of " + head.trim(), length <= SOME_LINES, true);
+                callsOfItself(head.trim(), body.toString());
+                head = "";
+            } else {
+                body.append(line).append('\n');
+                length++;
             }
         }
+        Check.due("the methods are found", heads >= FACE.length, true);
+    }
+
+    /** Rule 8: a method that calls itself is private and static. */
+    private static void callsOfItself(String head, String body) {
+        String name = head.replaceAll("^[^(]*?(\\w+)\\(.*$", "$1");
+        boolean itself = Pattern.compile("(?<![\\w.])(this\\.)?" + name + "\\(").matcher(body).find();
+        Check.due("calls itself: " + head, itself && !head.startsWith("private static "), false);
     }
 }
